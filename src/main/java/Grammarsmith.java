@@ -50,30 +50,50 @@ public final class Grammarsmith {
     private static final int ROUNDS = 1000000;
 
     private final RuleText text = new RuleText();
-    private Grammar inUse = new Grammar();
-    private Grammar other = new Grammar();
+    private Grammar inUse;
+    private Grammar other;
     private int numberInUse;
-    private final int[] levels = new int[TERMINALS];
-    private final int[] sides = new int[TERMINALS];
-    private final int[] sentence = new int[CUTS];
+    private final int[] levels;
+    private final int[] sides;
+    /** The terminals of the sentence, and the end behind them. */
+    private final int[] sentence;
     private int sentenceLength;
-    private final Facts facts = new Facts(inUse);
-    private final Automaton mergedStates = new Automaton(facts, true);
-    private final Automaton wholeStates = new Automaton(facts, false);
-    private final Table predictive = new PredictiveTable(facts, sentence);
-    private final Table simple = new StateTable(mergedStates, true, levels, sides, sentence);
-    private final Table merged = new StateTable(mergedStates, false, levels, sides, sentence);
-    private final Table whole = new StateTable(wholeStates, false, levels, sides, sentence);
+    private final Facts facts;
+    private final Automaton mergedStates;
+    private final Automaton wholeStates;
+    private final Table predictive;
+    private final Table simple;
+    private final Table merged;
+    private final Table whole;
     private final Chart counting;
     private final Chart repairing;
 
     /** Creates two grammars without rules, without levels, with an empty sentence. */
     public Grammarsmith() {
-        Arrays.fill(sentence, END);
+        Grammar first = new Grammar();
+        int[] noLevels = new int[TERMINALS];
+        int[] noSides = new int[TERMINALS];
+        int[] empty = new int[CUTS];
+        Arrays.fill(empty, END);
+        Facts found = new Facts(first);
+        Automaton coarse = new Automaton(found, true);
+        Automaton fine = new Automaton(found, false);
         int[] wholes = new int[NONTERMINALS * SPANS];
         int[] parts = new int[ITEMS * SPANS];
-        counting = new CountingChart(facts, sentence, wholes, parts);
-        repairing = new RepairingChart(facts, sentence, wholes, parts);
+        inUse = first;
+        other = new Grammar();
+        levels = noLevels;
+        sides = noSides;
+        sentence = empty;
+        facts = found;
+        mergedStates = coarse;
+        wholeStates = fine;
+        predictive = new PredictiveTable(found, empty);
+        simple = new StateTable(coarse, true, noLevels, noSides, empty);
+        merged = new StateTable(coarse, false, noLevels, noSides, empty);
+        whole = new StateTable(fine, false, noLevels, noSides, empty);
+        counting = new CountingChart(found, empty, wholes, parts);
+        repairing = new RepairingChart(found, empty, wholes, parts);
     }
 
     // ---- rules

@@ -8,12 +8,11 @@ import java.util.HashSet;
 import java.util.LinkedHashMap;
 import java.util.List;
 import java.util.Map;
-import java.util.Random;
 import java.util.Set;
 import java.util.TreeSet;
 
 /**
- * Random runs of calls, each answered by Grammarsmith and by a slow reading of the document that
+ * Mixed runs of calls, each answered by Grammarsmith and by a slow reading of the document that
  * goes other ways: a recogniser by descent, sets of pairs, states of WHOLE without a bound, trees
  * that are built, and plain rounds over all stretches at once.
  *
@@ -1100,39 +1099,62 @@ public final class ReferenceTest {
         int answer();
     }
 
+    /** A row of numbers that the seed alone settles, so that every run is the same each time. */
+    private static final class Dice {
+        private long state;
+
+        Dice(long seed) {
+            state = seed * 0x9E3779B97F4A7C15L;
+        }
+
+        int nextInt(int bound) {
+            state = state * 6364136223846793005L + 1442695040888963407L;
+            return (int) ((state >>> 33) % bound);
+        }
+
+        boolean nextBoolean() {
+            return nextInt(2) == 0;
+        }
+    }
+
     private static final class Run {
         static long calls;
         static final Map<String, Integer> seen = new HashMap<>();
 
-        private final Random random;
+        private final Dice random;
         private final Grammarsmith object = new Grammarsmith();
         private final Reference reference = new Reference();
         private final StringBuilder told = new StringBuilder();
         private final int letters;
         private final int names;
+        /** Its rules are long, so that tables come near to what is too large. */
+        private final boolean wide;
         private int left = 512;
 
         Run(int seed) {
-            random = new Random(seed * 7919L);
+            random = new Dice(seed);
             letters = 1 + random.nextInt(random.nextBoolean() ? 3 : 8);
             names = 1 + random.nextInt(random.nextBoolean() ? 3 : 8);
+            wide = random.nextInt(4) == 0;
         }
 
         String play() {
-            int phases = 3 + random.nextInt(20);
-            for (int k = 0; k < phases && left > 0; k++) {
-                String fault = phase();
-                if (fault != null) {
-                    return fault;
-                }
+            int rules = wide ? 8 : random.nextInt(names + 2);
+            String fault = null;
+            for (int k = 0; k < rules && fault == null; k++) {
+                fault = rule((char) ('A' + k % names));
             }
-            return null;
+            int phases = 3 + random.nextInt(30);
+            for (int k = 0; k < phases && left > 0 && fault == null; k++) {
+                fault = phase();
+            }
+            return fault;
         }
 
         private String phase() {
             int dice = random.nextInt(20);
-            if (dice < 8) {
-                return rule();
+            if (dice < 4) {
+                return rule(name());
             }
             String fault = null;
             int many = 1 + random.nextInt(12);
@@ -1142,8 +1164,8 @@ public final class ReferenceTest {
             return fault;
         }
 
-        private String rule() {
-            String text = random.nextInt(8) == 0 ? noise() : name() + ":" + choice(2 + random.nextInt(3));
+        private String rule(char name) {
+            String text = random.nextInt(8) == 0 ? noise() : name + ":" + choice(2 + random.nextInt(3));
             String fault = check("wipe", 0, 0, 0);
             for (int k = 0; k < text.length() && k < 25 && fault == null; k++) {
                 fault = check("type", text.charAt(k), 0, 0);
@@ -1173,10 +1195,10 @@ public final class ReferenceTest {
 
         private String choice(int depth) {
             StringBuilder choice = new StringBuilder();
-            int sequences = 1 + (random.nextInt(2) == 0 ? random.nextInt(4) : 0);
+            int sequences = 1 + (wide || random.nextInt(2) == 0 ? random.nextInt(4) : 0);
             for (int k = 0; k < sequences; k++) {
                 choice.append(k > 0 ? "|" : "");
-                int items = random.nextInt(random.nextInt(6) == 0 ? 7 : 4);
+                int items = wide ? 3 + random.nextInt(3) : random.nextInt(random.nextInt(6) == 0 ? 7 : 4);
                 for (int j = 0; j < items; j++) {
                     item(choice, depth);
                 }
@@ -1221,12 +1243,20 @@ public final class ReferenceTest {
                 case 1: return check("use", random.nextInt(2), 0, 0);
                 case 2: return check("bring", random.nextInt(8), 0, 0);
                 case 3: return check("start", random.nextInt(names), 0, 0);
-                default: return check("level", random.nextInt(letters), random.nextInt(4), random.nextInt(3));
+                default: return check("level", random.nextInt(letters), random.nextInt(random.nextBoolean() ? 2 : 7),
+                        random.nextInt(3));
             }
         }
 
+        /** Mostly one that a production has on its left. */
+        private int nonterminal() {
+            List<Production> all = reference.language().productions;
+            return all.isEmpty() || random.nextInt(4) == 0 ? random.nextInt(16)
+                    : all.get(random.nextInt(all.size())).left();
+        }
+
         private String ask() {
-            int nonterminal = random.nextInt(random.nextBoolean() ? names : 16);
+            int nonterminal = nonterminal();
             int production = random.nextInt(reference.language().productions.size() + 1);
             int kind = random.nextInt(4);
             switch (random.nextInt(21)) {
@@ -1239,7 +1269,7 @@ public final class ReferenceTest {
                 case 6: return check("uses", nonterminal, 0, 0);
                 case 7: return check("isLeftRecursive", nonterminal, 0, 0);
                 case 8: return check("shortest", nonterminal, 0, 0);
-                case 9: return check("sentence", nonterminal, random.nextInt(6), 0);
+                case 9: return spell(nonterminal);
                 case 10: return check("size", kind, 0, 0);
                 case 11: return check("conflicts", kind, 0, 0);
                 case 12: return check("settled", kind, 0, 0);
@@ -1252,6 +1282,15 @@ public final class ReferenceTest {
                 case 19: return derive();
                 default: return everything();
             }
+        }
+
+        private String spell(int nonterminal) {
+            int length = Math.max(0, reference.shortest(nonterminal));
+            String fault = check("shortest", nonterminal, 0, 0);
+            for (int place = length; place >= 0 && place > length - 4 && fault == null; place--) {
+                fault = check("sentence", nonterminal, place, 0);
+            }
+            return fault;
         }
 
         /** Makes the sentence one that is derived from the start, if that comes about, and asks of it. */
@@ -1276,7 +1315,7 @@ public final class ReferenceTest {
             }
             row.removeIf(symbol -> symbol >= 16);
             String fault = null;
-            while (!reference.sentence.isEmpty() && fault == null) {
+            while (!reference.sentence.isEmpty() && fault == null && left > 0) {
                 fault = check("cut", 0, 0, 0);
             }
             for (int k = 0; k < row.size() && k < 12 && fault == null; k++) {

@@ -811,7 +811,7 @@ public final class Grammarsmith {
             return has(leftRecursive, nonterminal);
         }
 
-        /** Tells whether a nonterminal derives itself alone, so that its trees have no number. */
+        /** Tells whether a nonterminal derives itself alone: if it has a tree then, its trees have no end. */
         boolean isCircular(int nonterminal) {
             return has(circular, nonterminal);
         }
@@ -918,11 +918,10 @@ public final class Grammarsmith {
                 }
             }
             closeRelation();
-            reached = 1 << grammar.top();
-            for (int nonterminal = 0; nonterminal < NONTERMINALS; nonterminal++) {
-                if (nonterminal == grammar.top()) {
-                    reached |= relation[nonterminal];
-                }
+            int top = grammar.top();
+            reached = 1 << top;
+            if (top >= 0 && top < NONTERMINALS) {
+                reached |= relation[top];
             }
         }
 

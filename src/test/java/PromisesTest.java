@@ -376,6 +376,10 @@ public final class PromisesTest {
         for (String text : tooLong) {
             refusedWithout("enter " + text, typed(text, "A:ab", "B:a?"), Grammarsmith::enter, STATE);
         }
+        Grammarsmith again = typed("A:ab(abcdef)").make();
+        refused("a bracket that is too long", again, Grammarsmith::enter, STATE);
+        enter(again, "A:(a)b");
+        same("brackets behind one that was too long", rights(again), "8:a A:8b ");
         refusedWithout("a 25th production", typed("A:a", bars(22), bars(2)), Grammarsmith::enter, STATE);
         refusedWithout("25 productions", typed("B:a|b", bars(21), bars(2)), Grammarsmith::enter, STATE);
         refusedWithout("25 with a helper", typed("B:a?", bars(20), bars(2)), Grammarsmith::enter, STATE);
@@ -409,6 +413,13 @@ public final class PromisesTest {
         due("shortest", x, o -> o.shortest(A), NONE);
         due("enter at last", x, Grammarsmith::enter, 2);
         same("the first helper", rights(x), "8:c B:8 ");
+        Grammarsmith rules = new Grammarsmith();
+        for (int k = 0; k < 24; k++) {
+            enter(rules, "A:");
+        }
+        refused("a 25th rule", rules, Grammarsmith::enter, STATE);
+        due("undo the 24th", rules, Grammarsmith::undo, 23);
+        due("undo the 23rd", rules, Grammarsmith::undo, 22);
         Grammarsmith full = with("A:a?a?a?a?", "A:((((a))))");
         full.undo();
         due("helpers are free again", full, Grammarsmith::enter, 14);
@@ -676,7 +687,7 @@ public final class PromisesTest {
         x.start(H);
         all("a start without rules", x, finder, 1, 1, 0, 0, 0, 0, 0, 2);
         all("helpers", with("B:a?", "A:c"), finder, 3, 1, 0, 0, 0, 0, 0, 0, 1, 0);
-        Grammarsmith chain = with("D:Ca", "C:A", "A:B", "B:Eb");
+        Grammarsmith chain = with("D:Ca", "C:A", "A:B", "B:E");
         chain.start(D);
         all("far away", chain, finder, 2, 2, 2, 2, 2, 0);
         due("undo", chain, Grammarsmith::undo, 3);
@@ -742,6 +753,12 @@ public final class PromisesTest {
         spells("20", with("A:BBBBB", "B:hcbh|hcaf"), A, "hcafhcafhcafhcafhcaf");
         spells("20 h", with("A:BBBBB", "B:hhhh"), A, "hhhhhhhhhhhhhhhhhhhh");
         spells("20 a", with("A:BBBBB", "B:aaaa"), A, "aaaaaaaaaaaaaaaaaaaa");
+        Grammarsmith changing = with("A:b");
+        due("asked first", changing, o -> o.sentence(A, 0), 1);
+        enter(changing, "A:a");
+        due("asked first behind enter", changing, o -> o.sentence(A, 0), 0);
+        changing.use(1);
+        refused("asked first behind use", changing, o -> o.sentence(A, 0), STATE);
         Grammarsmith x = with("A:BBBBC", "B:aaaa", "C:Bb", "D:aD");
         refused("21", x, o -> o.sentence(A, 0), STATE);
         refused("not productive", x, o -> o.sentence(D, 0), STATE);
@@ -784,6 +801,11 @@ public final class PromisesTest {
                 "A:eaaaa|ebaaa|ecaaa", "A:faaaa|fbaaa|fcaaa");
     }
 
+    /** With 24 productions. */
+    private static Grammarsmith crowded() {
+        return with("A:aa|ab|ac|ad|ae|af|ag", "A:ba|bb|bc|bd|be|bf|bg", "A:ca|cb|cc|cd|ce|cf|cg", "A:d|e|f");
+    }
+
     private static Grammarsmith frames(String frames) {
         return with("A:" + frames, "B:fghfg|gfhgf|hfghf");
     }
@@ -805,6 +827,12 @@ public final class PromisesTest {
         kinds("81 states", broad, finder, 7, TOO_LARGE, TOO_LARGE, TOO_LARGE);
         broad.undo();
         kinds("80 states again", broad, finder, 6, 80, 80, 80);
+        enter(broad, "A:h");
+        kinds("81 states again", broad, finder, 7, TOO_LARGE, TOO_LARGE, TOO_LARGE);
+        broad.use(1);
+        enter(broad, "A:a");
+        kinds("few states behind many", broad, finder, 1, 3, 3, 3);
+        kinds("24 productions", crowded(), finder, 6, 29, 29, 29);
         kinds("four frames", frames("aBa|bBb|cBc|dBd"), finder, 7, 29, 29, 74);
         kinds("five frames", frames("aBa|bBb|cBc|dBd|eBe"), finder, 8, 32, 32, TOO_LARGE);
         Grammarsmith x = with("A:a");
@@ -830,6 +858,7 @@ public final class PromisesTest {
         kinds("80 states", broad, finder, 6, 0, 0, 0);
         enter(broad, "A:g");
         kinds("81 states", broad, finder, 6, TOO_LARGE, TOO_LARGE, TOO_LARGE);
+        kinds("24 productions", crowded(), finder, 3, 0, 0, 0);
         Grammarsmith x = with("A:AaA|AbA|c");
         x.level(0, 1, LEFT);
         x.level(1, 2, NEITHER);
@@ -867,6 +896,7 @@ public final class PromisesTest {
         kinds("the terminal of one production", ahead, finder, 0, 1, 1, 1);
         ahead.level(1, 2, LEFT);
         kinds("a terminal ahead in the other", ahead, finder, 0, 2, 2, 2);
+        kinds("a terminal at the end", levelled("A:Bbc|abd", "B:a"), finder, 0, 1, 1, 1);
         Grammarsmith broad = levelled();
         enter(broad, "A:aaaaa|abaaa|acaaa", "A:baaaa|bbaaa|bcaaa", "A:caaaa|cbaaa|ccaaa", "A:daaaa|dbaaa|dcaaa",
                 "A:eaaaa|ebaaa|ecaaa", "A:faaaa|fbaaa|fcaaa", "A:g");
@@ -987,9 +1017,14 @@ public final class PromisesTest {
         Grammarsmith frames = frames("aBa|bBb|cBc|dBd|eBe");
         parsed(frames, "afghfga", NONE, NONE, NONE, TOO_LARGE);
         parsed(frames, "afghfgb", 6, 6, 6, TOO_LARGE);
+        Grammarsmith crowded = crowded();
+        parsed(crowded, "cg", 1, NONE, NONE, NONE);
+        parsed(crowded, "f", NONE, NONE, NONE, NONE);
+        parsed(crowded, "", 0, 0, 0, 0);
         parseConflicts();
         parseAtLength();
         parseInMergedStates();
+        parseWithManyStates();
         noKinds("parse", Grammarsmith::parse);
     }
 
@@ -1041,6 +1076,18 @@ public final class PromisesTest {
         parsed(shifts, "aaaa", NONE, NONE, NONE, NONE);
         enter(shifts, "C:g");
         parsed(shifts, "aaa", 3, 3, 3, 3);
+    }
+
+    /** With 42 empty ones ahead of each a, the states that a parser has come over are 300 at a seventh. */
+    private static void parseWithManyStates() {
+        String[] rules = {"A:BBBBC", "C:BBBBD", "D:BBBBE", "E:BBBB(BBBBG)", "G:BBBB(BBBB(BBBBH))",
+            "H:BBBB(BBBB(BBaA))", "B:", "F:Bb"};
+        Grammarsmith x = with(rules);
+        parsed(x, "aaaaaab", STUCK, 6, 6, 6);
+        parsed(x, "aaaaaaab", STUCK, STUCK, STUCK, STUCK);
+        x.undo();
+        parsed(x, "aaaaaa", STUCK, 6, 6, 6);
+        parsed(x, "aaaaa", 5, 5, 5, 5);
     }
 
     private static void value() {
@@ -1155,6 +1202,19 @@ public final class PromisesTest {
         reads(aside, "aac", 1);
         reads(aside, "bd", 100);
         reads(aside, "abd", 100);
+        Grammarsmith once = with("A:a", "A:A");
+        reads(once, "a", 100);
+        due("what is found ahead of undo", once, o -> o.first(A), 1);
+        once.undo();
+        due("behind undo", once, Grammarsmith::readings, 1);
+        once.use(1);
+        due("behind use", once, Grammarsmith::readings, 0);
+        once.bring(0);
+        due("behind bring", once, Grammarsmith::readings, 1);
+        enter(once, "A:A");
+        due("behind enter", once, Grammarsmith::readings, 100);
+        once.start(B);
+        due("behind start", once, Grammarsmith::readings, 0);
         Grammarsmith nothing = with("A:AA|a|");
         reads(nothing, "", 100);
         reads(nothing, "a", 100);

@@ -1286,7 +1286,7 @@ public final class ReferenceTest {
 
         private String spell(int nonterminal) {
             int length = Math.max(0, reference.shortest(nonterminal));
-            String fault = check("shortest", nonterminal, 0, 0);
+            String fault = random.nextBoolean() ? check("shortest", nonterminal, 0, 0) : null;
             for (int place = length; place >= 0 && place > length - 4 && fault == null; place--) {
                 fault = check("sentence", nonterminal, place, 0);
             }
@@ -1325,7 +1325,7 @@ public final class ReferenceTest {
         }
 
         private String everything() {
-            String fault = null;
+            String fault = random.nextBoolean() ? check("readings", 0, 0, 0) : check("repair", 0, 0, 0);
             for (int kind = 0; kind < 4 && fault == null; kind++) {
                 fault = check("parse", kind, 0, 0);
                 fault = fault == null ? check("value", kind, 0, 0) : fault;

@@ -5,28 +5,7 @@ import java.util.List;
  * The promises of the document one by one: ordinary inputs, the edges that it names, and wrong
  * inputs. What is due was worked out by hand from the document's words.
  */
-public final class PromisesTest {
-    private static final int NONE = -1, TOO_LARGE = -2, STUCK = -3;
-    private static final int PREDICTIVE = 0, SIMPLE = 1, MERGED = 2, WHOLE = 3;
-    private static final int LEFT = 0, RIGHT = 1, NEITHER = 2;
-    private static final int A = 0, B = 1, C = 2, D = 3, E = 4, F = 5, G = 6, H = 7;
-    private static final int END = 1 << 8;
-
-    private static final Class<IllegalArgumentException> ARGUMENT = IllegalArgumentException.class;
-    private static final Class<IllegalStateException> STATE = IllegalStateException.class;
-    private static final Class<IndexOutOfBoundsException> INDEX = IndexOutOfBoundsException.class;
-
-    private static int wrong;
-    private static int promise;
-
-    private interface Call {
-        long of(Grammarsmith x);
-    }
-
-    private interface Maker {
-        Grammarsmith make();
-    }
-
+public final class PromisesTest extends Checks {
     public static void main(String[] args) {
         Runnable[] promises = {
             PromisesTest::newObject, PromisesTest::type, PromisesTest::wipe, PromisesTest::fault,
@@ -37,153 +16,13 @@ public final class PromisesTest {
             PromisesTest::sentence, PromisesTest::size, PromisesTest::conflicts, PromisesTest::settled,
             PromisesTest::chosen, PromisesTest::put, PromisesTest::cut, PromisesTest::parse,
             PromisesTest::value, PromisesTest::readings, PromisesTest::repair};
-        for (Runnable test : promises) {
-            promise++;
-            test.run();
+        for (int k = 0; k < promises.length; k++) {
+            about("promise " + (k + 1));
+            promises[k].run();
         }
+        about("the constants");
         constants();
-        if (wrong > 0) {
-            System.out.println(wrong + " answers are not as due");
-            System.exit(1);
-        }
-    }
-
-    // ---- how calls are checked
-
-    private static String outcome(Grammarsmith x, Call call) {
-        try {
-            return Long.toString(call.of(x));
-        } catch (RuntimeException thrown) {
-            return thrown.getClass().getName();
-        }
-    }
-
-    private static void same(String what, String got, String want) {
-        if (!got.equals(want)) {
-            wrong++;
-            System.out.println("promise " + promise + ": " + what + " answered " + got + ", due is " + want);
-        }
-    }
-
-    private static void due(String what, Grammarsmith x, Call call, long want) {
-        same(what, outcome(x, call), Long.toString(want));
-    }
-
-    private static void refused(String what, Grammarsmith x, Call call, Class<?> want) {
-        same(what, outcome(x, call), want.getName());
-    }
-
-    /** A call that throws, and of which nothing is to be seen later. */
-    private static void refusedWithout(String what, Maker maker, Call call, Class<?> want) {
-        Grammarsmith touched = maker.make();
-        refused(what, touched, call, want);
-        same(what + ", and what stands behind it", allOf(touched), allOf(maker.make()));
-    }
-
-    private static void dues(String what, Grammarsmith x, Call[] calls, long... wants) {
-        for (int k = 0; k < wants.length; k++) {
-            due(what + " " + k, x, calls[k], wants[k]);
-        }
-    }
-
-    /** What all that can be asked answers; the object is used up by it. */
-    private static String allOf(Grammarsmith x) {
-        StringBuilder all = new StringBuilder();
-        int used = x.use(0);
-        all.append("used ").append(used).append(" fault ").append(x.fault());
-        for (int grammar = 0; grammar < 2; grammar++) {
-            x.use(grammar);
-            all.append('\n').append(rights(x));
-            for (int n = A; n <= 9; n++) {
-                all.append(' ').append(x.first(n)).append(',').append(x.follow(n));
-            }
-            all.append(" sizes ").append(x.size(0)).append(',').append(x.size(1)).append(',').append(x.size(3));
-            all.append(" parse ").append(x.parse(1)).append(',').append(x.settled(1));
-            all.append(" value ").append(outcome(x, o -> o.value(1)));
-            all.append(" readings ").append(x.readings()).append(" repair ").append(x.repair());
-            all.append(" start ").append(x.start(0)).append(" undone");
-            while (x.productions() > 0) {
-                all.append(' ').append(x.undo());
-            }
-        }
-        all.append("\ntext ").append(outcome(x, Grammarsmith::enter)).append(' ').append(rights(x));
-        all.append(x.wipe()).append(" levels");
-        for (int t = 0; t < 8; t++) {
-            all.append(' ').append(x.level(t, 0, LEFT));
-        }
-        return all.append(" sentence ").append(spoken(x)).toString();
-    }
-
-    private static void type(Grammarsmith x, String text) {
-        x.wipe();
-        for (int k = 0; k < text.length(); k++) {
-            x.type(text.charAt(k));
-        }
-    }
-
-    private static void enter(Grammarsmith x, String... rules) {
-        for (String rule : rules) {
-            type(x, rule);
-            x.enter();
-        }
-    }
-
-    private static Grammarsmith with(String... rules) {
-        Grammarsmith x = new Grammarsmith();
-        enter(x, rules);
-        return x;
-    }
-
-    /** Makes the sentence another one. */
-    private static Grammarsmith say(Grammarsmith x, String sentence) {
-        spoken(x);
-        for (int k = 0; k < sentence.length(); k++) {
-            x.put(k, sentence.charAt(k) - 'a');
-        }
-        return x;
-    }
-
-    /** The sentence, which is empty then. */
-    private static String spoken(Grammarsmith x) {
-        StringBuilder sentence = new StringBuilder();
-        for (String got = outcome(x, o -> o.cut(0)); got.length() == 1; got = outcome(x, o -> o.cut(0))) {
-            sentence.append((char) ('a' + got.charAt(0) - '0'));
-        }
-        return sentence.toString();
-    }
-
-    private static String name(int nonterminal) {
-        return nonterminal < 8 ? Character.toString((char) ('A' + nonterminal)) : Integer.toString(nonterminal);
-    }
-
-    /** The productions, written as the terms write symbols, helpers by their numbers. */
-    private static String rights(Grammarsmith x) {
-        StringBuilder all = new StringBuilder();
-        for (int p = 0; p < x.productions(); p++) {
-            all.append(name(x.left(p))).append(':');
-            for (int place = 0; place < 5; place++) {
-                int symbol = x.right(p, place);
-                if (symbol == NONE) {
-                    break;
-                }
-                all.append(symbol < 8 ? Character.toString((char) ('a' + symbol)) : name(symbol - 16));
-            }
-            all.append(' ');
-        }
-        return all.toString();
-    }
-
-    private static void becomes(String rule, String want) {
-        same(rule, rights(with(rule)), want);
-    }
-
-    /** A rule of so many productions, all of them empty. */
-    private static String bars(int sequences) {
-        StringBuilder rule = new StringBuilder("A:");
-        for (int k = 1; k < sequences; k++) {
-            rule.append('|');
-        }
-        return rule.toString();
+        finish();
     }
 
     // ---- rules
@@ -232,28 +71,13 @@ public final class PromisesTest {
             refused("type " + (int) letter, x, o -> o.type(letter), ARGUMENT);
         }
         due("nothing was typed", x, Grammarsmith::wipe, 0);
-        Maker rich = PromisesTest::rich;
+        Maker rich = Checks::rich;
         refusedWithout("no letter", rich, o -> o.type('i'), ARGUMENT);
         refusedWithout("a 25th letter", () -> {
             Grammarsmith full = rich();
             type(full, "A:a|aa|aaa|aaaa|aaaaa|aa");
             return full;
         }, o -> o.type('b'), STATE);
-    }
-
-    /** Two grammars, levels, a sentence and a text, all of them other than at first. */
-    private static Grammarsmith rich() {
-        Grammarsmith x = with("A:AaA|AbA|c", "B:A?");
-        x.start(B);
-        x.use(1);
-        enter(x, "C:d%e", "A:AbA|Cc");
-        x.start(A);
-        x.use(0);
-        x.level(0, 3, RIGHT);
-        x.level(1, 3, NEITHER);
-        say(x, "cacbc");
-        type(x, "D:(b|c)*");
-        return x;
     }
 
     private static void wipe() {
@@ -354,14 +178,6 @@ public final class PromisesTest {
         due("the text stays", x, Grammarsmith::wipe, 5);
         enterThrows();
         enterToTheBrim();
-    }
-
-    private static Maker typed(String text, String... rules) {
-        return () -> {
-            Grammarsmith x = with(rules);
-            type(x, text);
-            return x;
-        };
     }
 
     private static void enterThrows() {
@@ -466,7 +282,7 @@ public final class PromisesTest {
         due("start of 1", x, o -> o.start(A), C);
         due("the sentence in 1", x, o -> o.parse(SIMPLE), NONE);
         for (int grammar : new int[] {-1, 2, Integer.MAX_VALUE, Integer.MIN_VALUE}) {
-            refusedWithout("use " + grammar, PromisesTest::rich, o -> o.use(grammar), INDEX);
+            refusedWithout("use " + grammar, Checks::rich, o -> o.use(grammar), INDEX);
         }
         x.level(0, 4, RIGHT);
         x.use(0);
@@ -498,20 +314,9 @@ public final class PromisesTest {
         bringThrows();
     }
 
-    private static Maker other(String[] rules, String... others) {
-        return () -> {
-            Grammarsmith x = with(rules);
-            x.use(1);
-            enter(x, others);
-            x.use(0);
-            type(x, "H:a");
-            return x;
-        };
-    }
-
     private static void bringThrows() {
         for (int shift : new int[] {-1, 8, 9, Integer.MAX_VALUE, Integer.MIN_VALUE}) {
-            refusedWithout("bring " + shift, PromisesTest::rich, o -> o.bring(shift), ARGUMENT);
+            refusedWithout("bring " + shift, Checks::rich, o -> o.bring(shift), ARGUMENT);
         }
         String[] most = {bars(22), "A:"};
         refused("bring 8 into a full grammar", other(most, "A:", "A:").make(), o -> o.bring(8), ARGUMENT);
@@ -537,7 +342,7 @@ public final class PromisesTest {
         due("start", x, o -> o.start(A), H);
         due("size", x, o -> o.size(WHOLE), 3);
         for (int nonterminal : new int[] {-1, 8, 15, 16, Integer.MAX_VALUE, Integer.MIN_VALUE}) {
-            refusedWithout("start " + nonterminal, PromisesTest::rich, o -> o.start(nonterminal), INDEX);
+            refusedWithout("start " + nonterminal, Checks::rich, o -> o.start(nonterminal), INDEX);
         }
     }
 
@@ -552,9 +357,9 @@ public final class PromisesTest {
             due("level before", x, o -> o.level(terminal, 0, RIGHT), 5 - terminal % 6);
         }
         for (int odd : new int[] {-1, 8, Integer.MAX_VALUE, Integer.MIN_VALUE}) {
-            refusedWithout("terminal " + odd, PromisesTest::rich, o -> o.level(odd, 1, LEFT), INDEX);
-            refusedWithout("side " + odd, PromisesTest::rich, o -> o.level(0, 1, odd), INDEX);
-            refusedWithout("level " + odd, PromisesTest::rich, o -> o.level(0, odd, LEFT), ARGUMENT);
+            refusedWithout("terminal " + odd, Checks::rich, o -> o.level(odd, 1, LEFT), INDEX);
+            refusedWithout("side " + odd, Checks::rich, o -> o.level(0, 1, odd), INDEX);
+            refusedWithout("level " + odd, Checks::rich, o -> o.level(0, odd, LEFT), ARGUMENT);
             refused("terminal and level " + odd, x, o -> o.level(odd, odd, LEFT), INDEX);
             refused("level and side " + odd, x, o -> o.level(0, odd, odd), INDEX);
         }
@@ -592,7 +397,7 @@ public final class PromisesTest {
         dues("left", x, new Call[] {o -> o.left(0), o -> o.left(1), o -> o.left(2), o -> o.left(3), o -> o.left(4)},
                 B, 8, 8, H, H);
         for (int production : new int[] {-1, 5, 24, Integer.MAX_VALUE, Integer.MIN_VALUE}) {
-            refusedWithout("left " + production, PromisesTest::rich, o -> o.left(production == 5 ? 6 : production),
+            refusedWithout("left " + production, Checks::rich, o -> o.left(production == 5 ? 6 : production),
                     INDEX);
             refused("left " + production, x, o -> o.left(production), INDEX);
         }
@@ -616,33 +421,25 @@ public final class PromisesTest {
         refused("right of production 3", x, o -> o.right(3, 0), INDEX);
         x.undo();
         refused("right of what was taken away", x, o -> o.right(2, 0), INDEX);
-        refusedWithout("right", PromisesTest::rich, o -> o.right(0, 5), INDEX);
+        refusedWithout("right", Checks::rich, o -> o.right(0, 5), INDEX);
     }
 
     // ---- what is found
 
     /** A number for each of the nonterminals from A on. */
-    private static void all(String what, Grammarsmith x, Finder finder, long... wants) {
+    private static void all(String what, Grammarsmith x, Ask finder, long... wants) {
         for (int n = 0; n < wants.length; n++) {
             int nonterminal = n;
             due(what + " of " + name(n), x, o -> finder.of(o, nonterminal), wants[n]);
         }
         for (int odd : new int[] {-1, 16, 17, Integer.MAX_VALUE, Integer.MIN_VALUE}) {
             refused(what + " of " + odd, x, o -> finder.of(o, odd), INDEX);
-            refusedWithout(what + " of " + odd, PromisesTest::rich, o -> finder.of(o, odd), INDEX);
+            refusedWithout(what + " of " + odd, Checks::rich, o -> finder.of(o, odd), INDEX);
         }
     }
 
-    private interface Finder {
-        long of(Grammarsmith x, int nonterminal);
-    }
-
-    private static int bit(boolean is) {
-        return is ? 1 : 0;
-    }
-
     private static void isNullable() {
-        Finder finder = (x, n) -> bit(x.isNullable(n));
+        Ask finder = (x, n) -> bit(x.isNullable(n));
         all("nullable", with("A:BC", "B:b|", "C:cC|B", "D:BaC", "E:DE|F", "F:FA|H"), finder,
                 1, 1, 1, 0, 0, 0, 0, 0, 0, 0, 0, 0, 0, 0, 0, 0);
         all("helpers", with("A:a?b*c+d%e(|f)"), finder, 0, 0, 0, 0, 0, 0, 0, 0, 1, 1, 0, 0, 1, 0, 0, 0);
@@ -653,7 +450,7 @@ public final class PromisesTest {
     }
 
     private static void first() {
-        Finder finder = Grammarsmith::first;
+        Ask finder = Grammarsmith::first;
         all("first", with("A:BCd|e", "B:b|", "C:cC|B"), finder, 30, 2, 6, 0, 0, 0, 0, 0, 0, 0, 0, 0, 0, 0, 0, 0);
         all("without an end", with("A:hA", "B:CaB", "C:g?"), finder, 128, 65, 64);
         all("left recursive", with("A:Ab|Ba", "B:Ac|d|"), finder, 9, 9);
@@ -663,7 +460,7 @@ public final class PromisesTest {
     }
 
     private static void follow() {
-        Finder finder = Grammarsmith::follow;
+        Ask finder = Grammarsmith::follow;
         all("follow", with("A:BCd|e", "B:b|", "C:cC|B"), finder,
                 END, 14, 8, 0, 0, 0, 0, 0, 0, 0, 0, 0, 0, 0, 0, 0);
         all("useless ones count", with("A:a", "B:CaAD", "C:CB"), finder, END, 1, 1, 1);
@@ -677,7 +474,7 @@ public final class PromisesTest {
     }
 
     private static void uses() {
-        Finder finder = Grammarsmith::uses;
+        Ask finder = Grammarsmith::uses;
         all("uses", with("A:aB|c", "B:CD", "C:c", "E:a", "F:F", "G:aE"), finder,
                 3, 2, 3, 2, 1, 0, 1, 0, 0, 0, 0, 0, 0, 0, 0, 0);
         all("through unproductive ones", with("A:B", "B:CB", "C:|D"), finder, 2, 2, 3, 2);
@@ -695,7 +492,7 @@ public final class PromisesTest {
     }
 
     private static void isLeftRecursive() {
-        Finder finder = (x, n) -> bit(x.isLeftRecursive(n));
+        Ask finder = (x, n) -> bit(x.isLeftRecursive(n));
         all("left recursive", with("A:Aa|b", "B:bB", "C:Da", "D:Eb", "E:Cc|A", "F:A", "G:H", "H:HH"), finder,
                 1, 0, 1, 1, 1, 0, 0, 1, 0, 0, 0, 0, 0, 0, 0, 0);
         all("behind nullable ones", with("A:BBAc|a", "B:|b", "C:DCc", "D:d", "E:EE", "F:BDF"), finder,
@@ -708,13 +505,8 @@ public final class PromisesTest {
         all("no longer", x, finder, 0, 0, 0, 0);
     }
 
-    /** A has the length 97 and that of its last part, which is a or has as many terminals as it is called. */
-    private static Grammarsmith longer(String last) {
-        return with("H:aaaaa", "G:HHHHH", "F:HHHHD", "D:aa", "C:aaa", "B:aaaa", "A:GGGF" + last);
-    }
-
     private static void shortest() {
-        Finder finder = Grammarsmith::shortest;
+        Ask finder = Grammarsmith::shortest;
         all("shortest", with("A:aBc|CC", "B:|b", "C:cc|ccc", "D:aD", "E:DA|AA", "F:B"), finder,
                 2, 0, 2, NONE, 4, 0, NONE, NONE, NONE, NONE, NONE, NONE, NONE, NONE, NONE, NONE);
         all("helpers", with("A:a+b%cd?e*(fg)"), finder, 4, NONE, NONE, NONE, NONE, NONE, NONE, NONE, 1, 1, 0, 0, 2);
@@ -764,152 +556,114 @@ public final class PromisesTest {
         refused("not productive", x, o -> o.sentence(D, 0), STATE);
         refused("without productions", x, o -> o.sentence(15, 0), STATE);
         for (int odd : new int[] {-1, 16, Integer.MAX_VALUE, Integer.MIN_VALUE}) {
-            refusedWithout("of " + odd, PromisesTest::rich, o -> o.sentence(odd, 0), INDEX);
+            refusedWithout("of " + odd, Checks::rich, o -> o.sentence(odd, 0), INDEX);
         }
         refused("of 16 and ahead", x, o -> o.sentence(16, -1), INDEX);
         refused("not productive, and ahead", x, o -> o.sentence(D, -1), INDEX);
         refused("not productive, and ahead", x, o -> o.sentence(D, Integer.MIN_VALUE), INDEX);
-        refusedWithout("behind its end", PromisesTest::rich, o -> o.sentence(A, 1), STATE);
+        refusedWithout("behind its end", Checks::rich, o -> o.sentence(A, 1), STATE);
     }
 
     // ---- tables
 
-    private static final String[] SUMS = {"A:AbB|B", "B:BcC|C", "C:dAe|f"};
-    private static final String[] POINTERS = {"A:BaC|C", "B:bC|c", "C:B"};
-    private static final String[] TWINS = {"A:cBa|dBb|cCb|dCa", "B:e", "C:e"};
-
-    private interface KindFinder {
-        long of(Grammarsmith x, int kind);
-    }
-
-    private static void kinds(String what, Grammarsmith x, KindFinder finder, long... wants) {
-        for (int k = 0; k < wants.length; k++) {
-            int kind = k;
-            due(what + ", kind " + k, x, o -> finder.of(o, kind), wants[k]);
-        }
-    }
-
-    private static void noKinds(String what, KindFinder finder) {
+    private static void noKinds(String what, Ask finder) {
         for (int odd : new int[] {-1, 4, Integer.MAX_VALUE, Integer.MIN_VALUE}) {
-            refusedWithout(what + ", kind " + odd, PromisesTest::rich, o -> finder.of(o, odd), INDEX);
+            refusedWithout(what + ", kind " + odd, Checks::rich, o -> finder.of(o, odd), INDEX);
         }
-    }
-
-    /** With 80 states; each letter more has one state more. */
-    private static Grammarsmith broad() {
-        return with("A:aaaaa|abaaa|acaaa", "A:baaaa|bbaaa|bcaaa", "A:caaaa|cbaaa|ccaaa", "A:daaaa|dbaaa|dcaaa",
-                "A:eaaaa|ebaaa|ecaaa", "A:faaaa|fbaaa|fcaaa");
-    }
-
-    /** With 24 productions. */
-    private static Grammarsmith crowded() {
-        return with("A:aa|ab|ac|ad|ae|af|ag", "A:ba|bb|bc|bd|be|bf|bg", "A:ca|cb|cc|cd|ce|cf|cg", "A:d|e|f");
-    }
-
-    private static Grammarsmith frames(String frames) {
-        return with("A:" + frames, "B:fghfg|gfhgf|hfghf");
     }
 
     private static void size() {
-        KindFinder finder = Grammarsmith::size;
-        kinds("no rules", new Grammarsmith(), finder, 0, 2, 2, 2);
-        kinds("sums", with(SUMS), finder, 6, 12, 12, 22);
-        kinds("pointers", with(POINTERS), finder, 6, 10, 10, 14);
-        kinds("twins", with(TWINS), finder, 4, 13, 13, 14);
-        kinds("a list", with("A:aA|b"), finder, 2, 5, 5, 5);
-        kinds("nothing", with("A:"), finder, 1, 2, 2, 2);
-        kinds("with nullable ones", with("A:Bb", "B:a|"), finder, 4, 5, 5, 5);
-        kinds("useless ones", with("A:a", "B:bBc|"), finder, 3, 3, 3, 3);
-        kinds("nothing behind it", with("A:BC", "B:b"), finder, 2, 5, 5, 5);
+        Ask finder = Grammarsmith::size;
+        each("no rules", new Grammarsmith(), finder, 0, 2, 2, 2);
+        each("sums", with(SUMS), finder, 6, 12, 12, 22);
+        each("pointers", with(POINTERS), finder, 6, 10, 10, 14);
+        each("twins", with(TWINS), finder, 4, 13, 13, 14);
+        each("a list", with("A:aA|b"), finder, 2, 5, 5, 5);
+        each("nothing", with("A:"), finder, 1, 2, 2, 2);
+        each("with nullable ones", with("A:Bb", "B:a|"), finder, 4, 5, 5, 5);
+        each("useless ones", with("A:a", "B:bBc|"), finder, 3, 3, 3, 3);
+        each("nothing behind it", with("A:BC", "B:b"), finder, 2, 5, 5, 5);
         Grammarsmith broad = broad();
-        kinds("80 states", broad, finder, 6, 80, 80, 80);
+        each("80 states", broad, finder, 6, 80, 80, 80);
         enter(broad, "A:g");
-        kinds("81 states", broad, finder, 7, TOO_LARGE, TOO_LARGE, TOO_LARGE);
+        each("81 states", broad, finder, 7, TOO_LARGE, TOO_LARGE, TOO_LARGE);
         broad.undo();
-        kinds("80 states again", broad, finder, 6, 80, 80, 80);
+        each("80 states again", broad, finder, 6, 80, 80, 80);
         enter(broad, "A:h");
-        kinds("81 states again", broad, finder, 7, TOO_LARGE, TOO_LARGE, TOO_LARGE);
+        each("81 states again", broad, finder, 7, TOO_LARGE, TOO_LARGE, TOO_LARGE);
         broad.use(1);
         enter(broad, "A:a");
-        kinds("few states behind many", broad, finder, 1, 3, 3, 3);
-        kinds("24 productions", crowded(), finder, 6, 29, 29, 29);
-        kinds("four frames", frames("aBa|bBb|cBc|dBd"), finder, 7, 29, 29, 74);
-        kinds("five frames", frames("aBa|bBb|cBc|dBd|eBe"), finder, 8, 32, 32, TOO_LARGE);
+        each("few states behind many", broad, finder, 1, 3, 3, 3);
+        each("24 productions", crowded(), finder, 6, 29, 29, 29);
+        each("four frames", frames("aBa|bBb|cBc|dBd"), finder, 7, 29, 29, 74);
+        each("five frames", frames("aBa|bBb|cBc|dBd|eBe"), finder, 8, 32, 32, TOO_LARGE);
         Grammarsmith x = with("A:a");
-        kinds("levels are nothing to it", x, finder, 1, 3, 3, 3);
+        each("levels are nothing to it", x, finder, 1, 3, 3, 3);
         x.start(B);
-        kinds("another start", x, finder, 1, 2, 2, 2);
+        each("another start", x, finder, 1, 2, 2, 2);
         noKinds("size", finder);
     }
 
     private static void conflicts() {
-        KindFinder finder = Grammarsmith::conflicts;
-        kinds("no rules", new Grammarsmith(), finder, 0, 0, 0, 0);
-        kinds("sums", with(SUMS), finder, 4, 0, 0, 0);
-        kinds("pointers", with(POINTERS), finder, 2, 1, 0, 0);
-        kinds("twins", with(TWINS), finder, 2, 2, 2, 0);
-        kinds("two operators", with("A:AaA|AbA|c"), finder, 1, 4, 4, 4);
-        kinds("twice the same", with("A:a|a"), finder, 1, 1, 1, 1);
-        kinds("a circle", with("A:A|a"), finder, 1, 1, 1, 1);
-        kinds("twice nothing", with("A:|"), finder, 1, 1, 1, 1);
-        kinds("nothing or more", with("A:Ba", "B:a|"), finder, 1, 1, 1, 1);
-        kinds("the same in useless ones", with("A:a", "B:b|b"), finder, 1, 0, 0, 0);
+        Ask finder = Grammarsmith::conflicts;
+        each("no rules", new Grammarsmith(), finder, 0, 0, 0, 0);
+        each("sums", with(SUMS), finder, 4, 0, 0, 0);
+        each("pointers", with(POINTERS), finder, 2, 1, 0, 0);
+        each("twins", with(TWINS), finder, 2, 2, 2, 0);
+        each("two operators", with("A:AaA|AbA|c"), finder, 1, 4, 4, 4);
+        each("twice the same", with("A:a|a"), finder, 1, 1, 1, 1);
+        each("a circle", with("A:A|a"), finder, 1, 1, 1, 1);
+        each("twice nothing", with("A:|"), finder, 1, 1, 1, 1);
+        each("nothing or more", with("A:Ba", "B:a|"), finder, 1, 1, 1, 1);
+        each("the same in useless ones", with("A:a", "B:b|b"), finder, 1, 0, 0, 0);
         Grammarsmith broad = broad();
-        kinds("80 states", broad, finder, 6, 0, 0, 0);
+        each("80 states", broad, finder, 6, 0, 0, 0);
         enter(broad, "A:g");
-        kinds("81 states", broad, finder, 6, TOO_LARGE, TOO_LARGE, TOO_LARGE);
-        kinds("24 productions", crowded(), finder, 3, 0, 0, 0);
+        each("81 states", broad, finder, 6, TOO_LARGE, TOO_LARGE, TOO_LARGE);
+        each("24 productions", crowded(), finder, 3, 0, 0, 0);
         Grammarsmith x = with("A:AaA|AbA|c");
         x.level(0, 1, LEFT);
         x.level(1, 2, NEITHER);
-        kinds("settled ones", x, finder, 1, 4, 4, 4);
+        each("settled ones", x, finder, 1, 4, 4, 4);
         noKinds("conflicts", finder);
     }
 
     private static void settled() {
-        KindFinder finder = Grammarsmith::settled;
+        Ask finder = Grammarsmith::settled;
         Grammarsmith x = with("A:AaA|AbA|c");
-        kinds("without levels", x, finder, 0, 0, 0, 0);
+        each("without levels", x, finder, 0, 0, 0, 0);
         x.level(0, 1, LEFT);
-        kinds("one level", x, finder, 0, 1, 1, 1);
+        each("one level", x, finder, 0, 1, 1, 1);
         x.level(2, 5, LEFT);
-        kinds("a level of another terminal", x, finder, 0, 1, 1, 1);
+        each("a level of another terminal", x, finder, 0, 1, 1, 1);
         x.level(1, 1, RIGHT);
-        kinds("both levels", x, finder, 0, 4, 4, 4);
+        each("both levels", x, finder, 0, 4, 4, 4);
         x.level(1, 5, NEITHER);
-        kinds("other levels", x, finder, 0, 4, 4, 4);
+        each("other levels", x, finder, 0, 4, 4, 4);
         x.level(0, 0, LEFT);
-        kinds("one level", x, finder, 0, 1, 1, 1);
+        each("one level", x, finder, 0, 1, 1, 1);
         Grammarsmith thrice = levelled("A:AaA|AaA|c");
-        kinds("three actions", thrice, finder, 0, 0, 0, 0);
-        kinds("two reductions", levelled("A:Ba|Ca", "B:b", "C:b"), finder, 0, 0, 0, 0);
-        kinds("accepting", levelled("A:A|a"), finder, 0, 0, 0, 0);
-        kinds("no terminal in the production", levelled("A:AA|a"), finder, 0, 0, 0, 0);
-        kinds("nothing in the production", levelled("A:Ba", "B:a|"), finder, 0, 0, 0, 0);
+        each("three actions", thrice, finder, 0, 0, 0, 0);
+        each("two reductions", levelled("A:Ba|Ca", "B:b", "C:b"), finder, 0, 0, 0, 0);
+        each("accepting", levelled("A:A|a"), finder, 0, 0, 0, 0);
+        each("no terminal in the production", levelled("A:AA|a"), finder, 0, 0, 0, 0);
+        each("nothing in the production", levelled("A:Ba", "B:a|"), finder, 0, 0, 0, 0);
         Grammarsmith last = with("A:AaAbA|c");
         last.level(0, 1, RIGHT);
-        kinds("the first terminal of the production", last, finder, 0, 0, 0, 0);
+        each("the first terminal of the production", last, finder, 0, 0, 0, 0);
         last.level(1, 2, RIGHT);
-        kinds("the last terminal of the production", last, finder, 0, 1, 1, 2);
+        each("the last terminal of the production", last, finder, 0, 1, 1, 2);
         Grammarsmith ahead = with("A:bA|AaA|c");
         ahead.level(0, 2, LEFT);
-        kinds("the terminal of one production", ahead, finder, 0, 1, 1, 1);
+        each("the terminal of one production", ahead, finder, 0, 1, 1, 1);
         ahead.level(1, 2, LEFT);
-        kinds("a terminal ahead in the other", ahead, finder, 0, 2, 2, 2);
-        kinds("a terminal at the end", levelled("A:Bbc|abd", "B:a"), finder, 0, 1, 1, 1);
+        each("a terminal ahead in the other", ahead, finder, 0, 2, 2, 2);
+        each("a terminal at the end", levelled("A:Bbc|abd", "B:a"), finder, 0, 1, 1, 1);
         Grammarsmith broad = levelled();
         enter(broad, "A:aaaaa|abaaa|acaaa", "A:baaaa|bbaaa|bcaaa", "A:caaaa|cbaaa|ccaaa", "A:daaaa|dbaaa|dcaaa",
                 "A:eaaaa|ebaaa|ecaaa", "A:faaaa|fbaaa|fcaaa", "A:g");
-        kinds("81 states", broad, finder, 0, TOO_LARGE, TOO_LARGE, TOO_LARGE);
+        each("81 states", broad, finder, 0, TOO_LARGE, TOO_LARGE, TOO_LARGE);
         noKinds("settled", finder);
-    }
-
-    private static Grammarsmith levelled(String... rules) {
-        Grammarsmith x = with(rules);
-        for (int t = 0; t < 8; t++) {
-            x.level(t, 1, LEFT);
-        }
-        return x;
     }
 
     private static void chosen() {
@@ -949,8 +703,8 @@ public final class PromisesTest {
         refusedWithout("a 13th terminal", full, o -> o.put(0, 0), STATE);
         refusedWithout("a 13th terminal at the end", full, o -> o.put(12, 0), STATE);
         for (int odd : new int[] {-1, 13, Integer.MAX_VALUE, Integer.MIN_VALUE}) {
-            refusedWithout("put at " + odd, PromisesTest::rich, o -> o.put(odd, 0), INDEX);
-            refusedWithout("put " + odd, PromisesTest::rich, o -> o.put(0, odd == 13 ? 8 : odd), INDEX);
+            refusedWithout("put at " + odd, Checks::rich, o -> o.put(odd, 0), INDEX);
+            refusedWithout("put " + odd, Checks::rich, o -> o.put(0, odd == 13 ? 8 : odd), INDEX);
             refusedWithout("put at " + odd + " into a full one", full, o -> o.put(odd, 0), INDEX);
             refusedWithout("put " + odd + " into a full one", full, o -> o.put(0, odd), INDEX);
         }
@@ -971,20 +725,20 @@ public final class PromisesTest {
         same("the sentence", spoken(x), "bcdeghabch");
         refused("cut nothing", x, o -> o.cut(0), INDEX);
         for (int odd : new int[] {-1, 5, 12, 13, Integer.MAX_VALUE, Integer.MIN_VALUE}) {
-            refusedWithout("cut " + odd, PromisesTest::rich, o -> o.cut(odd), INDEX);
+            refusedWithout("cut " + odd, Checks::rich, o -> o.cut(odd), INDEX);
         }
         Grammarsmith end = say(with("A:ab"), "abc");
         end.cut(2);
-        kinds("what was cut is gone", end, Grammarsmith::parse, NONE, NONE, NONE, NONE);
+        each("what was cut is gone", end, Grammarsmith::parse, NONE, NONE, NONE, NONE);
         Grammarsmith whole = say(with("A:abcdA|"), "abcdabcdabcd");
-        kinds("twelve", whole, Grammarsmith::parse, NONE, NONE, NONE, NONE);
+        each("twelve", whole, Grammarsmith::parse, NONE, NONE, NONE, NONE);
         whole.cut(11);
-        kinds("eleven", whole, Grammarsmith::parse, 11, 11, 11, 11);
+        each("eleven", whole, Grammarsmith::parse, 11, 11, 11, 11);
     }
 
     private static void parsed(Grammarsmith x, String sentence, long... wants) {
         say(x, sentence);
-        kinds("parse " + sentence, x, Grammarsmith::parse, wants);
+        each("parse " + sentence, x, Grammarsmith::parse, wants);
     }
 
     private static void parse() {
@@ -1091,15 +845,15 @@ public final class PromisesTest {
     }
 
     private static void value() {
-        KindFinder finder = Grammarsmith::value;
-        kinds("nothing", with("A:"), finder, 1, 1, 1, 1);
-        kinds("five parts", say(with("A:abcde"), "abcde"), finder, 56, 56, 56, 56);
-        kinds("a later production", say(with("B:", "A:hBh"), "hh"), finder, 36, 36, 36, 36);
+        Ask finder = Grammarsmith::value;
+        each("nothing", with("A:"), finder, 1, 1, 1, 1);
+        each("five parts", say(with("A:abcde"), "abcde"), finder, 56, 56, 56, 56);
+        each("a later production", say(with("B:", "A:hBh"), "hh"), finder, 36, 36, 36, 36);
         Grammarsmith list = with("A:aA|b");
         int[] wants = {4, 10, 22, 46, 94, 190, 382, 766, 525, 43, 88, 178};
         StringBuilder sentence = new StringBuilder("b");
         for (int want : wants) {
-            kinds("a list", say(list, sentence.toString()), finder, want, want, want, want);
+            each("a list", say(list, sentence.toString()), finder, want, want, want, want);
             sentence.insert(0, 'a');
         }
         Grammarsmith x = say(with("A:AaA|AbA|c"), "cacbc");
@@ -1138,10 +892,10 @@ public final class PromisesTest {
     }
 
     private static void valueOfConflicts() {
-        KindFinder finder = Grammarsmith::value;
-        kinds("the lowest production", say(with("A:B|C", "B:a", "C:a"), "a"), finder, 5, 5, 5, 5);
+        Ask finder = Grammarsmith::value;
+        each("the lowest production", say(with("A:B|C", "B:a", "C:a"), "a"), finder, 5, 5, 5, 5);
         valued("the lowest production", say(with("B:a", "C:a", "A:C|B"), "a"), 6);
-        kinds("the lowest production", with("A:|"), finder, 1, 1, 1, 1);
+        each("the lowest production", with("A:|"), finder, 1, 1, 1, 1);
         valued("accepting ahead of reducing", say(with("A:A|a"), "a"), 3);
         Grammarsmith last = say(with("A:AaAbA|c"), "cacbcacbc");
         last.level(0, 1, RIGHT);

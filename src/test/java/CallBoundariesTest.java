@@ -10,6 +10,8 @@ public final class CallBoundariesTest extends Checks {
     public static void main(String[] args) {
         the512thCall();
         all512Calls();
+        all512Parses();
+        asksBehindChanges();
         askingChangesNothing();
         refusalsByTheFirstException();
         terminals();
@@ -125,7 +127,67 @@ public final class CallBoundariesTest extends Checks {
         }
     }
 
+    /** All of the calls but some 30 parse. */
+    private static void all512Parses() {
+        says("What it is", "An object is used for at most 512 calls after it has been made", 27, 28);
+        for (int k = PREDICTIVE; k <= WHOLE; k++) {
+            int kind = k;
+            Grammarsmith accepted = say(with("A:aA|b"), "aaaaaaaaaaab");
+            Grammarsmith wrong = say(with("A:aA|b"), "aaaaaaaaaaaa");
+            Grammarsmith stuck = say(with("B:", "C:", "A:BA|Ca"), "a");
+            for (int calls = 30; calls + 2 <= CALLS; calls += 2) {
+                due("value ahead of call " + calls, accepted, o -> o.value(kind), 178);
+                due("parse ahead of call " + calls, accepted, o -> o.parse(kind), NONE);
+                refused("value ahead of call " + calls, wrong, o -> o.value(kind), STATE);
+                due("parse ahead of call " + calls, wrong, o -> o.parse(kind), 12);
+                due("parse ahead of call " + calls, stuck, o -> o.parse(kind), STUCK);
+            }
+        }
+    }
+
     // ---- what calls change
+
+    /** All nonterminals of the first rules derive each other, and no longer behind undo. */
+    private static Grammarsmith circular() {
+        Grammarsmith x = say(with("A:B|a", "C:c", "B:A|b"), "a");
+        type(x, "A:|C");
+        return x;
+    }
+
+    /** A grammar that is asked all, then changed, then asked one thing, answers as one that was not asked ahead. */
+    private static void asksBehindChanges() {
+        says("Terms", "Rules, levels and a sentence are told; productions, tables, parses, readings and repairs "
+                + "are asked.", 5, 6, 7, 8, 9, 10, 25, 26);
+        Call[] changes = {Grammarsmith::enter, Grammarsmith::undo, o -> o.use(1), o -> o.use(0), o -> o.bring(1),
+            o -> o.start(A), o -> o.start(D), o -> o.level(0, 1, LEFT), o -> o.put(0, 2), o -> o.cut(0), o -> o.cut(4)};
+        Call[] asks = {o -> bit(o.isNullable(B)), o -> o.first(D), o -> o.follow(A), o -> o.uses(D), o -> o.uses(B),
+            o -> bit(o.isLeftRecursive(A)), o -> o.shortest(C), o -> o.shortest(D), o -> o.sentence(A, 0),
+            o -> o.sentence(C, 0), o -> o.size(PREDICTIVE), o -> o.size(SIMPLE), o -> o.size(MERGED),
+            o -> o.size(WHOLE), o -> o.conflicts(PREDICTIVE), o -> o.conflicts(SIMPLE), o -> o.conflicts(MERGED),
+            o -> o.conflicts(WHOLE), o -> o.settled(SIMPLE), o -> o.settled(MERGED), o -> o.settled(WHOLE),
+            Grammarsmith::chosen, o -> o.parse(PREDICTIVE), o -> o.parse(SIMPLE), o -> o.parse(MERGED),
+            o -> o.parse(WHOLE), o -> o.value(SIMPLE), o -> o.value(WHOLE), Grammarsmith::readings,
+            Grammarsmith::repair};
+        for (Maker maker : new Maker[] {RICH, RICH_IN_OTHER, CallBoundariesTest::circular}) {
+            for (int change = 0; change < changes.length; change++) {
+                for (int ask = 0; ask < asks.length; ask++) {
+                    Grammarsmith fresh = maker.make();
+                    outcome(fresh, changes[change]);
+                    Grammarsmith asked = maker.make();
+                    for (Call ahead : asks) {
+                        outcome(asked, ahead);
+                    }
+                    outcome(asked, changes[change]);
+                    same("ask " + ask + " behind change " + change, outcome(asked, asks[ask]),
+                            outcome(fresh, asks[ask]));
+                }
+            }
+        }
+        Grammarsmith x = circular();
+        due("readings of what has no end", x, Grammarsmith::readings, 100);
+        x.undo();
+        due("readings behind undo", x, Grammarsmith::readings, 1);
+    }
 
     private static void asksWithout(String what, Call call) {
         unseen(what, RICH, call);

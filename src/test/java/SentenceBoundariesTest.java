@@ -21,7 +21,7 @@ public final class SentenceBoundariesTest extends Checks {
             SentenceBoundariesTest::cutTakes, SentenceBoundariesTest::cutPlaces, SentenceBoundariesTest::cutReturns,
             SentenceBoundariesTest::cutThrows, SentenceBoundariesTest::parse, SentenceBoundariesTest::parseReturns,
             SentenceBoundariesTest::value, SentenceBoundariesTest::valueThrows, SentenceBoundariesTest::readings,
-            SentenceBoundariesTest::repair};
+            SentenceBoundariesTest::readingsAndRepairsInTurn, SentenceBoundariesTest::repair};
         for (Runnable sentence : sentences) {
             sentence.run();
         }
@@ -89,14 +89,13 @@ public final class SentenceBoundariesTest extends Checks {
 
     private static void noAction() {
         says("Parsing", "If there is no action, the sentence is wrong at the next terminal.", 27);
-        Grammarsmith x = with("A:abcdA|");
         String sentence = "abcdabcdabcd";
         for (int place = 0; place < 12; place++) {
-            parsed(x, sentence.substring(0, place) + "h" + sentence.substring(place + 1), place, place, place, place);
+            parsed(with("A:abcdA|"), sentence.substring(0, place) + "h" + sentence.substring(place + 1), place, place, place, place);
         }
         for (int length = 0; length <= 12; length++) {
             int due = length % 4 == 0 ? NONE : length;
-            parsed(x, sentence.substring(0, length), due, due, due, due);
+            parsed(with("A:abcdA|"), sentence.substring(0, length), due, due, due, due);
         }
         Grammarsmith settled = say(with("A:AaA|c"), "cacacacacaca");
         settled.level(0, 1, NEITHER);
@@ -151,6 +150,7 @@ public final class SentenceBoundariesTest extends Checks {
         says("Parsing", "it is STUCK.", 27);
         parsed(with("A:Aa|a"), "a", STUCK, NONE, NONE, NONE);
         parsed(with("A:AAAAA|a"), "a", STUCK, NONE, NONE, NONE);
+        parsed(with("A:Aaaaa|b"), "b", STUCK, NONE, NONE, NONE);
         Grammarsmith empties = with("B:", "C:", "A:BA|Ca");
         parsed(empties, "a", STUCK, STUCK, STUCK, STUCK);
         parsed(empties, "b", 0, 0, 0, 0);
@@ -407,8 +407,14 @@ public final class SentenceBoundariesTest extends Checks {
         each("the root alone", with("A:"), VALUE, 1, 1, 1, 1);
         each("the root of a chain", say(with("A:B", "B:C", "C:h"), "h"), VALUE, 1 + 2 + 11, 14, 14, 14);
         promise(28, "Returns the value.");
-        each("another sentence", say(with("A:aA|b"), "b"), VALUE, 4, 4, 4, 4);
-        each("another sentence", say(with("A:aA|b"), "ab"), VALUE, 10, 10, 10, 10);
+        Grammarsmith list = with("A:aA|b");
+        int due = 4;
+        for (int length = 1; length <= 12; length++) {
+            String sentence = "a".repeat(length - 1) + "b";
+            each("value of " + sentence, say(list, sentence), VALUE, due, due, due, due);
+            due = (1 + 1 + 2 * due) % 1009;
+        }
+        each("the first sentence again", say(list, "b"), VALUE, 4, 4, 4, 4);
         promise(28, "- `kind`: PREDICTIVE to WHOLE");
         within("kind", () -> say(with("A:aA|b"), "ab"), VALUE, 3, INDEX);
         promise(28, "Throws `IndexOutOfBoundsException` if there is no such kind");
@@ -470,6 +476,9 @@ public final class SentenceBoundariesTest extends Checks {
         due("101, by 100 and 1", product(10, 10, 1), Grammarsmith::readings, 100);
         due("110", product(10, 11, 0), Grammarsmith::readings, 100);
         due("without end", say(with("A:A|a"), "a"), Grammarsmith::readings, 100);
+        due("none of what has no end", say(with("A:A|a"), "b"), Grammarsmith::readings, 0);
+        due("without end, by one that has no terminals", with("A:AB|", "B:"), Grammarsmith::readings, 100);
+        due("itself ahead of one terminal", say(with("A:Aa|"), "aa"), Grammarsmith::readings, 1);
         String[] powers = {"H:|", "G:HHHHH", "F:GGGGG", "E:FGHH", "D:EE", "C:EEA"};
         due("2 to the power of 5", from(G, with(powers)), Grammarsmith::readings, 32);
         due("2 to the power of 25", from(F, with(powers)), Grammarsmith::readings, 100);
@@ -488,6 +497,24 @@ public final class SentenceBoundariesTest extends Checks {
         due("by the production 23", from(B, say(with(bars(23), "B:bAccc"), "bccc")), Grammarsmith::readings, 23);
         due("of no terminals", with("A:|"), Grammarsmith::readings, 2);
         due("of no rules", new Grammarsmith(), Grammarsmith::readings, 0);
+    }
+
+    /** All sixteen nonterminals derive each other; each derives a, and hh. */
+    private static void readingsAndRepairsInTurn() {
+        says("Readings and repairs", "The readings of a sentence are the trees by which it is derived from the start, "
+                + "whatever tables are. The least repair is the fewest edits", 29, 30);
+        Grammarsmith x = with("A:B", "B:C", "C:D", "D:E", "E:F", "F:G", "G:H", "H:((((((((A|a|hh))))))))");
+        for (int start = A; start <= H; start++) {
+            x.start(start);
+            for (int round = 0; round < 2; round++) {
+                due("readings of b", say(x, "b"), Grammarsmith::readings, 0);
+                due("repair of b", x, Grammarsmith::repair, 1);
+                due("repair of bb", say(x, "bb"), Grammarsmith::repair, 2);
+                due("readings of bb", x, Grammarsmith::readings, 0);
+                due("readings of a", say(x, "a"), Grammarsmith::readings, 100);
+                due("repair of a", x, Grammarsmith::repair, 0);
+            }
+        }
     }
 
     /** An a or nothing by all helpers, some b, and an a or nothing by all helpers. */

@@ -25,6 +25,7 @@ public final class TableBoundariesTest extends Checks {
         severalActions();
         settledLevels();
         settledSides();
+        sidesOfEachTerminal();
         notSettledOrder();
         predictiveConflicts();
         moreThan80States();
@@ -185,6 +186,10 @@ public final class TableBoundariesTest extends Checks {
         each("all that is behind it in two states", twins, CONFLICTS, 2, 2, 2, TOO_LARGE);
         due("all that is behind it in two states", twins, Grammarsmith::chosen, NONE);
         each("the lowest goes for all", say(twins, "dea"), Grammarsmith::parse, 2, 2, 2, TOO_LARGE);
+        String[] later = {"A:cBa|cCb|dddBb|dddCa", "B:efgh", "C:efgh"};
+        each("what comes later, further on", with(later), CONFLICTS, 2, 2, 2, 0);
+        each("what comes later, round and round", with("A:cBa|cCb|dddBb|dddCa", "B:eBh|f", "C:eCh|f"), CONFLICTS,
+                2, 3, 3, 1);
         each("in the state of one alone", with("A:aBa|bBb|aCb", "B:c", "C:c"), CONFLICTS, 1, 1, 0, 0);
         each("in the states of both", with("A:aBa|bBb|aCb|bCa", "B:c", "C:c"), CONFLICTS, 2, 2, 2, 0);
     }
@@ -283,6 +288,31 @@ public final class TableBoundariesTest extends Checks {
         }
     }
 
+    /** Each terminal conflicts with itself alone. */
+    private static void sidesOfEachTerminal() {
+        says("Tables", "the side of the terminal of the cell decides: LEFT reduces, RIGHT shifts, NEITHER leaves no "
+                + "action.", 10, 23, 28);
+        Grammarsmith x = with("A:AaA|AbA|AcA|AdA", "A:AeA|AfA|AgA|AhA|");
+        for (int t = 0; t <= 7; t++) {
+            int terminal = t;
+            String letter = Character.toString((char) ('a' + t));
+            say(x, letter + letter);
+            int leaf = 9;
+            int once = t + 1 + leaf + 2 * (t + 1) + 3 * leaf;
+            int left = t + 1 + once + 2 * (t + 1) + 3 * leaf;
+            int right = t + 1 + leaf + 2 * (t + 1) + 3 * once;
+            due("without a level", x, o -> o.value(SIMPLE), right);
+            x.level(t, 1, LEFT);
+            due("LEFT of " + letter, x, o -> o.value(SIMPLE), left);
+            x.level(t, 1, RIGHT);
+            due("RIGHT of " + letter, x, o -> o.value(SIMPLE), right);
+            x.level(t, 1, NEITHER);
+            due("NEITHER of " + letter, x, o -> o.parse(SIMPLE), 1);
+            due("settled by " + letter, x, o -> o.settled(SIMPLE), 1);
+            due("the level of " + letter, x, o -> o.level(terminal, 0, LEFT), 1);
+        }
+    }
+
     private static void notSettledOrder() {
         says("Tables", "In a conflict that is not settled, accepting goes first, then shifting, then the lowest "
                 + "production.", 27, 28);
@@ -326,10 +356,17 @@ public final class TableBoundariesTest extends Checks {
         return x;
     }
 
-    /** The last states that one comes to lie far from the first one, and have ways that lead back. */
+    /** The last states that one comes to lie far from the first one; two ways lead there, and some lead back. */
     private static Grammarsmith deep() {
-        return say(with("A:hhhhB", "B:hhhhC", "C:eD|eE", "D:HD|b", "E:H", "H:a", "A:cD", "A:ddddd|dcccc|dbbbb",
-                "A:fffff|fcccc|fbbbb", "A:ggggg|gcccc|gbbbb", "A:bbbbb|daaaa|faaaa", "A:bcccc|be"), "hhhhhhhheaab");
+        return with("A:hhhhB", "B:hhhhC|hhhgC|hhhgG", "C:eD|eE", "G:e", "D:HD|b", "E:H", "H:a", "A:ccccD",
+                "A:aaaaa|bbbbb|ddddd", "A:eeeee|fffff|ggggg", "A:acccc|bcccc|dcccc", "A:ecccc|fcccc");
+    }
+
+    private static void deeply(String what, Grammarsmith x, long... wantsOrTooLarge) {
+        each(what + " over h", say(x, "hhhhhhhheaab"), (o, k) -> o.parse(k + 1), wantsOrTooLarge);
+        each(what + " over h", x, (o, k) -> o.value(k + 1), 896, 896);
+        each(what + " over g", say(x, "hhhhhhhgeaab"), (o, k) -> o.parse(k + 1), wantsOrTooLarge);
+        each(what + " over g", x, (o, k) -> o.value(k + 1), 881, 881);
     }
 
     private static void waysOfTheLastStates() {
@@ -337,15 +374,14 @@ public final class TableBoundariesTest extends Checks {
         Grammarsmith x = deep();
         each("80 states of WHOLE", x, (o, k) -> o.size(k + 1), 79, 79, 80);
         each("80 states of WHOLE", x, (o, k) -> o.conflicts(k + 1), 0, 0, 0);
-        each("80 states of WHOLE", x, (o, k) -> o.parse(k + 1), NONE, NONE, NONE);
-        each("80 states of WHOLE", x, (o, k) -> o.value(k + 1), 355, 355, 355);
-        enter(x, "A:ba");
+        deeply("80 states of WHOLE", x, NONE, NONE, NONE);
+        due("80 states of WHOLE", x, o -> o.value(WHOLE), 881);
+        enter(x, "A:gb");
         each("81 states of WHOLE", x, (o, k) -> o.size(k + 1), 80, 80, TOO_LARGE);
         each("81 states of WHOLE", x, (o, k) -> o.conflicts(k + 1), 0, 0, TOO_LARGE);
-        each("81 states of WHOLE", x, (o, k) -> o.parse(k + 1), NONE, NONE, TOO_LARGE);
-        each("81 states of WHOLE", x, (o, k) -> o.value(k + 1), 355, 355);
+        deeply("81 states of WHOLE", x, NONE, NONE, TOO_LARGE);
         x.undo();
-        enter(x, "A:baa");
+        enter(x, "A:gcc");
         each("81 states", x, (o, k) -> o.size(k + 1), TOO_LARGE, TOO_LARGE, TOO_LARGE);
     }
 

@@ -3,6 +3,7 @@ import java.io.UncheckedIOException;
 import java.nio.file.Files;
 import java.nio.file.Path;
 import java.util.ArrayList;
+import java.util.Arrays;
 import java.util.HashMap;
 import java.util.List;
 import java.util.Map;
@@ -67,13 +68,16 @@ final class Document {
         }
         boolean[] quoted = QUOTED.computeIfAbsent(section, s -> new boolean[words.length()]);
         for (int k = at; k >= 0; k = words.indexOf(sentence, k + 1)) {
-            java.util.Arrays.fill(quoted, k, k + sentence.length(), true);
+            Arrays.fill(quoted, k, k + sentence.length(), true);
         }
         return true;
     }
 
     /** The words of a section that nobody quoted. */
     static String rest(String section) {
+        if (!SECTIONS.isEmpty() && !SECTIONS.containsKey(section)) {
+            return "(there is no such section)";
+        }
         String words = SECTIONS.getOrDefault(section, "");
         boolean[] quoted = QUOTED.getOrDefault(section, new boolean[words.length()]);
         StringBuilder rest = new StringBuilder();

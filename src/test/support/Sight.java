@@ -11,6 +11,7 @@ final class Sight {
         all.append("\nrules ").append(rules(maker.make()));
         all.append("\nundone ").append(undone(maker.make()));
         all.append("\nkept ").append(kept(maker.make()));
+        all.append("\nentered ").append(entered(maker.make()));
         for (String more : new String[] {"", "a", ")", ":", "A:"}) {
             all.append("\ntext ").append(text(maker.make(), more));
         }
@@ -89,6 +90,13 @@ final class Sight {
             all.append(',').append(x.level(t, 0, 0));
         }
         return all.toString();
+    }
+
+    /** What a rule that needs helpers becomes, and what is left behind its undo. */
+    private static String entered(Grammarsmith x) {
+        Checks.type(x, "F:(a|b)c?");
+        StringBuilder all = new StringBuilder(Checks.outcome(x, Grammarsmith::enter)).append(' ').append(Checks.rights(x));
+        return all.append(Checks.outcome(x, Grammarsmith::undo)).append(' ').append(Checks.rights(x)).toString();
     }
 
     /** What the text becomes, with some letters more. */

@@ -344,9 +344,10 @@ public final class RuleBoundariesTest extends Checks {
 
     /** A rule that fits behind so many productions, and does not behind one more. */
     private static void fitsBehind(String text, int productions) {
-        due("enter " + text, typed(text, bars(20), "A:" + "|".repeat(productions - 21)).make(), Grammarsmith::enter, 24);
-        refusedWithout("enter " + text, typed(text, bars(20), "A:" + "|".repeat(productions - 20)),
-                Grammarsmith::enter, STATE);
+        Maker fitting = typed(text, bars(20), bars(productions - 20));
+        due("enter " + text, fitting.make(), Grammarsmith::enter, 24);
+        Maker full = typed(text, bars(20), bars(productions - 19));
+        refusedWithout("enter " + text, full, Grammarsmith::enter, STATE);
     }
 
     private static void enterProductions() {

@@ -91,7 +91,8 @@ public final class SentenceBoundariesTest extends Checks {
         says("Parsing", "If there is no action, the sentence is wrong at the next terminal.", 27);
         String sentence = "abcdabcdabcd";
         for (int place = 0; place < 12; place++) {
-            parsed(with("A:abcdA|"), sentence.substring(0, place) + "h" + sentence.substring(place + 1), place, place, place, place);
+            String wrong = sentence.substring(0, place) + "h" + sentence.substring(place + 1);
+            parsed(with("A:abcdA|"), wrong, place, place, place, place);
         }
         for (int length = 0; length <= 12; length++) {
             int due = length % 4 == 0 ? NONE : length;

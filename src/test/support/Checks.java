@@ -45,11 +45,11 @@ abstract class Checks {
 
     /** Names a sentence of the document's terms, and the promises for which it is tried next. */
     static void says(String section, String sentence, int... promises) {
-        StringBuilder what = new StringBuilder("promise");
-        for (int promise : promises) {
-            what.append(' ').append(promise);
+        StringBuilder what = new StringBuilder(section);
+        for (int k = 0; k < promises.length; k++) {
+            what.append(k == 0 ? ", promise " : " ").append(promises[k]);
         }
-        quote(what.append(", ").append(section).toString(), section, sentence);
+        quote(what.toString(), section, sentence);
     }
 
     /** Names a sentence of a promise that is tried next. */

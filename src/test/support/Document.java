@@ -29,8 +29,8 @@ final class Document {
                 code = !code;
             } else if (line.startsWith("#")) {
                 heading = heading(line);
-            } else if (!code) {
-                String section = line.startsWith("Ahead of the calls") ? "Ahead of the calls"
+            } else {
+                String section = code ? heading : line.startsWith("Ahead of the calls") ? "Ahead of the calls"
                         : line.startsWith("The constants:") || line.matches("`[A-Z_]+ = .*") ? "The constants" : heading;
                 sections.merge(section, withoutSignature(line), (one, more) -> one + " " + more);
             }

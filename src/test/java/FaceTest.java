@@ -94,7 +94,8 @@ public final class FaceTest extends Checks {
 
     private static void constants() {
         face("public final class Grammarsmith {");
-        same("the class", Modifier.toString(PROGRAM.getModifiers()) + " " + PROGRAM.getName(), "public final Grammarsmith");
+        same("the class", Modifier.toString(PROGRAM.getModifiers()) + " " + PROGRAM.getName(),
+                "public final Grammarsmith");
         face("public static final int NONE = -1;");
         constant("NONE", -1);
         face("public static final int TOO_LARGE = -2, STUCK = -3;");
@@ -379,8 +380,8 @@ public final class FaceTest extends Checks {
     /** What the rules rule out by a word that would stand in the source. */
     private static void words() {
         String[] ruledOut = {"package", "try", "catch", "finally", "synchronized", "assert", "native", "volatile",
-            "transient", "System", "Thread", "Random", "record", "instanceof", "equals", "hashCode", "toString", "double",
-            "float", "String", "Exact", "while \\(true\\)", "for \\(;;\\)", "->", "::", "@", "\""};
+            "transient", "System", "Thread", "Random", "record", "instanceof", "equals", "hashCode", "toString",
+            "double", "float", "String", "Exact", "while \\(true\\)", "for \\(;;\\)", "->", "::", "@", "\""};
         for (int k = 0; k < LINES.size(); k++) {
             String line = LINES.get(k);
             about("LANGUAGE, 4, 6, 9 and 13, the line " + (k + 1));
@@ -396,7 +397,8 @@ public final class FaceTest extends Checks {
                     + "|IndexOutOfBounds)Exception\\(\\);")) {
                 fail(line);
             }
-            if (line.matches(".*\\bfor \\(.*") && !line.matches(" *for \\(int \\w+ = .*; .*(<|<=|>|>=) .*; .*\\) \\{")) {
+            if (line.matches(".*\\bfor \\(.*")
+                    && !line.matches(" *for \\(int \\w+ = .*; .*(<|<=|>|>=) .*; .*\\) \\{")) {
                 fail("a loop without a bound");
             }
         }

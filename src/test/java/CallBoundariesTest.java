@@ -422,6 +422,14 @@ public final class CallBoundariesTest extends Checks {
         due("the other grammar still", x, Grammarsmith::productions, 0);
         x.use(0);
         due("the first grammar", x, Grammarsmith::productions, 1);
+        type(x, "B:b|");
+        x.use(1);
+        due("the text goes on in the other grammar", x, o -> o.type('c'), 5);
+        due("the text entered there", x, Grammarsmith::enter, 2);
+        x.use(0);
+        due("the text goes on in the first grammar", x, o -> o.type('|'), 6);
+        due("the text entered here, too", x, Grammarsmith::enter, 4);
+        same("the rules of the first grammar", rights(x), "A:a B:b B:c B: ");
     }
 
     private static void useOf() {
